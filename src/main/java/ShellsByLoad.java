@@ -41,6 +41,7 @@ public final class ShellsByLoad {
     private static final int MOST_OPENED = 4;
     private static final String LETTERS = "ongdmh";
     private static final String OPERATORS = "<>=+-*/";
+    // (o*2+n)/g as steps
     private static final int[] FIRST_RULE = {1000, 2, 2005, 1001, 2003, 1002, 2006};
     private static final int[] PLANS = {1, 3, 9, 27, 81, 243, 729};
 
@@ -1200,7 +1201,7 @@ public final class ShellsByLoad {
         }
 
         boolean has(int market) {
-            return within(market, 0, size - 1);
+            return market >= 0 && market < size;
         }
 
         int pass(Fleet fleet, int n) {
