@@ -182,6 +182,17 @@ public final class CountingTest {
         T.told("one: the least", x, x.ask(), 2, 1);
         x.left(4, 2);
         T.refuses("none fits", x, -2, () -> x.ask());
+        x.forget();
+        x.left(37, 0);
+        x.left(27, 0);
+        T.told("999 alone", x, x.ask(), 2, 1);
+        T.told("999 alone", x, x.fits(), 1, 999, 999);
+        x.forget();
+        x.left(40, 1);
+        x.left(39, 1);
+        T.told("1 alone", x, x.ask(), 2, 1);
+        x.left(2, 0);
+        T.refuses("none fits", x, -2, () -> x.ask());
         T.changesNothing("ask", x, () -> x.ask());
     }
 
@@ -207,6 +218,8 @@ public final class CountingTest {
         T.told("more than sound ones", x, x.finds(10, 6, 5), 0, 1, 1);
         T.told("as many as sound ones", x, x.finds(10, 5, 5), 0, 251, 252);
         T.told("one", x, x.finds(30, 7, 1), 0, 7, 30);
+        T.told("of one", x, x.finds(1, 1, 1), 0, 1, 1);
+        T.told("of one", x, x.finds(1, 0, 1), 0, 0, 1);
         T.told("half of 30", x, x.finds(30, 15, 15), 0, 155117519L, 155117520L);
         T.told("one of 30", x, x.finds(30, 1, 15), 0, 1, 2);
         T.refuses("others", x, -1, () -> x.finds(0, 0, 0), () -> x.finds(31, 0, 0), () -> x.finds(5, 6, 0),

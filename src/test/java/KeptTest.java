@@ -49,9 +49,13 @@ public final class KeptTest {
     }
 
     private static ShellsByLoad someCoast() {
-        ShellsByLoad x = Checks.coast("10;5;2", "o100n50.");
+        return someCoast("10;5;2");
+    }
+
+    private static ShellsByLoad someCoast(String markets) {
+        ShellsByLoad x = Checks.coast(markets, "o100n50.");
         x.months(9);
-        x.brings(1, 1, 9000);
+        x.brings(x.count(0) / 2, 1, 9000);
         return x;
     }
 
@@ -59,10 +63,11 @@ public final class KeptTest {
         int[] seeds = {0, 1, 2, 3, 12345, -1, -77, Integer.MIN_VALUE, Integer.MAX_VALUE, 99999999, 4711, 31337};
         for (int seed : seeds) {
             for (int n : new int[] {1, 2, 7, 60}) {
-                ShellsByLoad x = someCoast();
+                String markets = new String[] {"10;5;2", "7", "1;2", "9;8;7;6;5;4"}[(n + seed & 3)];
+                ShellsByLoad x = someCoast(markets);
                 T.changesNothing("years", x, () -> x.years(seed, n));
                 int got = x.years(seed, n);
-                ShellsByLoad y = someCoast();
+                ShellsByLoad y = someCoast(markets);
                 ByHand hand = new ByHand(y, seed);
                 for (int i = 0; i < n; i++) {
                     hand.year();

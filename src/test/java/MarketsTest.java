@@ -255,6 +255,17 @@ public final class MarketsTest {
         price("007", 7);
         price("000", 0);
         price("-2-(-2)*(0-1)*5+20", 8);
+        price("1=1+1", 0);
+        price("2=1+1", 1);
+        price("2-1=1", 1);
+        price("5+(3<2)", 5);
+        price("5+(2>3)", 5);
+        price("5+(2=3)", 5);
+        price("5-(2<3)", 4);
+        price("-(512*512*512*16)/2", 0);
+        price("(512*512*512*16)/-1", 0);
+        price("0-1-(512*512*512*16)", 99999);
+        price("--(512*512*512*16)<0", 1);
     }
 
     private static int wrapped() {
@@ -344,6 +355,13 @@ public final class MarketsTest {
         T.same("PRICE", x.market(0, 5), 0);
         T.same("38 minuses", Checks.rule(x, "-".repeat(38) + "77"), 0);
         T.same("PRICE", x.market(0, 5), 77);
+        String[] broken = {"-", "--(", "1+(", "((-(", "1<", "1*2<-(3+"};
+        for (String one : broken) {
+            T.same("a broken rule", Checks.rule(x, one), -1 - one.length());
+            T.same("PRICE", x.market(0, 5), 77);
+            T.same("a good one behind it", Checks.rule(x, "80-3"), 0);
+            T.same("PRICE", x.market(0, 5), 77);
+        }
         T.same("a bad law leaves the rule", Checks.law(x, "9+"), -1000002);
         T.same("PRICE", x.market(0, 5), 77);
     }

@@ -277,6 +277,11 @@ public final class MonthsTest {
         T.same("MONTH", x.count(2), 1);
         T.same("one to undo", x.count(10), 1);
         T.told("no such MARKET", x, Checks.year(x, "pb9p"), 1, 1, 240);
+        T.same("one deed is enough", x.count(10), 2);
+        x.undo();
+        T.same("THE PORT", x.count(5), 0);
+        Checks.year(x, "p");
+        T.same("one deed is enough", x.count(10), 2);
         T.same("THE PORT", x.count(5), 1);
         T.told("not so many", x, Checks.year(x, "l0o6"), 0, 1, 240);
         T.told("not so many LAID BY", x, Checks.year(x, "l0o5s0o6"), 1, 1, 240);

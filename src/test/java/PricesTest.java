@@ -77,6 +77,12 @@ public final class PricesTest {
         T.told("the most", x, x.trade(9999), 999890001, 0, 1);
         Checks.rule(x, "(d=1)*999*999+(d=2)");
         T.told("a PRICE of 0 gives none", x, x.trade(9999), 999890001, 2, 1);
+        ShellsByLoad two = Checks.coast("1;1", ".", "(d=0)*9+(d=1)*4+m");
+        T.told("two MARKETS", two, two.trade(30), 72, 1, 0);
+        ShellsByLoad six = Checks.coast("1;1;1;1;1;1", ".", "9-d+m*d");
+        T.told("five months apart", six, six.trade(9), 9 / 9 * (4 + 25), 0, 5);
+        T.told("five months apart", six, six.trade(18), 2 * 29, 0, 5);
+        T.told("three months apart", six, six.trade(36), 9 * 13, 5, 2);
         ShellsByLoad one = Checks.coast("5", "o9");
         one.ahead(0, 1);
         T.told("one MARKET", one, one.trade(9999), 9999);
@@ -101,6 +107,11 @@ public final class PricesTest {
         T.same("broken", x.buys(4, 1, 9001, 0), 4500 / now);
         x.sheet(2, 2, 33, 1);
         T.same("with what is GOODS now", x.buys(1, 1, 9000, 0), 9000 / 134);
+        Checks.rule(x, "o*9+n*9+g+m*9+h*9");
+        T.same("no shells, MONTH 0, nothing LAID BY", x.buys(1, 0, 9999, 0), 9999 / 33);
+        Checks.rule(x, "50-m*9");
+        T.same("MONTH 0", x.buys(1, 0, 9999, 0), 9999 / 50);
+        T.same("MONTH 4", x.buys(0, 0, 9999, 0), 9999 / 14);
         for (int kind = 0; kind <= 4; kind++) {
             T.same("none", x.buys(kind, 0, 0, 0), 0);
         }
@@ -216,6 +227,10 @@ public final class PricesTest {
         ShellsByLoad z = Checks.coast("10;10", ".", "o");
         z.brings(0, 0, 100);
         T.told("behind the MONTH", z, z.reign(1, 9, 0), 72, 1);
+        ShellsByLoad w = Checks.coast("10", ".", "o");
+        w.brings(0, 0, 1000);
+        T.told("two of three", w, w.reign(3, 5, 250), 750, 3);
+        T.told("one of three", w, w.reign(3, 5, 251), 500, 1);
         ShellsByLoad none = new ShellsByLoad();
         T.refuses("no MARKETS", none, -2, () -> none.reign(1, 1, 0));
         T.refuses("others", none, -1, () -> none.reign(0, 1, 0), () -> none.reign(1, 10, 0));
@@ -268,6 +283,11 @@ public final class PricesTest {
         T.told("a new year", x, x.rises(1), 4, 2 + 8);
         Checks.rule(x, "5");
         T.told("the same", x, x.rises(7), 0, 0);
+        Checks.rule(x, "m");
+        T.told("all", x, x.rises(12 * 4), 0, 0);
+        T.told("all fall", x, x.rises(1), 0, 15);
+        x.months(1);
+        T.told("all rise", x, x.rises(1), 15, 0);
         T.refuses("another n", x, -1, () -> x.rises(0), () -> x.rises(61), () -> x.rises(-1));
         ShellsByLoad none = new ShellsByLoad();
         T.told("no MARKETS", none, none.rises(1), 0, 0);
@@ -294,12 +314,26 @@ public final class PricesTest {
         T.told("the most", x, x.caravan(9999), 999999999, 2, 1, 2, 1);
         Checks.rule(x, "(d=0)*1+(d=1)*3+(d=2)*2+(d=3)*9");
         T.told("four deeds", x, x.caravan(10), 135, 2, 1, 2, 1);
+        caravansByLength();
         ShellsByLoad one = Checks.coast("5", "o10");
         one.months(1);
         T.told("one MARKET", one, one.caravan(77), 77, 0);
         ShellsByLoad none = new ShellsByLoad();
         T.refuses("no MARKETS", none, -2, () -> none.caravan(1));
         T.refuses("another v", none, -1, () -> none.caravan(0), () -> none.caravan(10000));
+    }
+
+    private static void caravansByLength() {
+        ShellsByLoad two = Checks.coast("1;1", ".", "2+d*m");
+        T.told("two MARKETS", two, two.caravan(10), 15, 2, 1);
+        ShellsByLoad five = Checks.coast("1;1;1;1;1", ".", "1+(d=1)*2+(d=3)*4");
+        T.told("five MARKETS", five, five.caravan(10), 150, 2, 1, 2, 1, 0);
+        ShellsByLoad six = Checks.coast("1;1;1;1;1;1", ".", "1+(d=1)+(d=3)*2+(d=5)*3");
+        T.told("six MARKETS", six, six.caravan(10), 240, 2, 1, 2, 1, 2, 1);
+        Checks.rule(six, "6-d");
+        T.told("all fall", six, six.caravan(10), 10, 0, 0, 0, 0, 0, 0);
+        Checks.rule(six, "2+(d=5)");
+        T.told("as late as can be", six, six.caravan(11), 16, 0, 0, 0, 0, 2, 1);
     }
 
     private static void questionsChangeNothing() {
