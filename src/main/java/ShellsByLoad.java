@@ -1220,8 +1220,7 @@ public final class ShellsByLoad {
             if (closed || size == 0 || fleet.kinds[i] == NONE) {
                 return 0;
             }
-            add(0, fleet.kinds[i], fleet.shells[i]);
-            return fleet.shells[i];
+            return add(0, fleet.kinds[i], fleet.shells[i]);
         }
 
         /** From the farthest MARKET on, so that what has just come does not go on in the same MONTH. */
@@ -1233,10 +1232,14 @@ public final class ShellsByLoad {
             }
         }
 
-        void add(int market, int kind, int n) {
-            if (has(market) && isKind(kind)) {
-                there[kind][market] = Math.min(MOST_THERE, there[kind][market] + n);
+        /** How many of them found room there. */
+        int add(int market, int kind, int n) {
+            if (!has(market) || !isKind(kind)) {
+                return 0;
             }
+            int were = there[kind][market];
+            there[kind][market] = Math.min(MOST_THERE, were + n);
+            return there[kind][market] - were;
         }
 
         private boolean mayMove(int market, int kind, int n) {

@@ -5,6 +5,7 @@ public final class MonthsTest {
     public static void main(String[] args) {
         T.test("10 months", MonthsTest::months);
         T.test("10 months: bounds", MonthsTest::monthsBounds);
+        T.test("10 months: landed, 99999 at most", MonthsTest::landedAtMost);
         T.test("10 months: a month's parts", MonthsTest::partsOfMonth);
         T.test("11 brings", MonthsTest::brings);
         T.test("12 lays", MonthsTest::lays);
@@ -55,6 +56,30 @@ public final class MonthsTest {
         T.same("landed", x.row(0), 60000);
     }
 
+    private static void landedAtMost() {
+        ShellsByLoad x = Checks.coast("1", "o999");
+        T.told("the last market keeps all", x, x.months(11), 99999, 99999, 99999);
+        T.told("no room", x, x.months(3), 99999, 0, 99999);
+        x.taxes(0, 1);
+        T.told("room that a tax made", x, x.months(2), 99999, 9999, 99999);
+        ShellsByLoad fresh = Checks.coast("2", "n999");
+        for (int i = 0; i < 10; i++) {
+            fresh.brings(0, 1, 9999);
+        }
+        fresh.brings(0, 0, 5);
+        T.told("NEW has room of its own", fresh, fresh.months(1), (10 + 99999) / 2, 9, (10 + 99999) / 2);
+        ShellsByLoad two = Checks.coast("1;1", "o999n999");
+        two.flow(0);
+        two.months(22);
+        two.flow(2);
+        T.told("what flows on makes room", two, two.months(3), 99999, 9990 + 9990, 99999);
+        two.undo();
+        T.told("the first of them met no room", two, two.months(1), 99999, 0, 19999 * 3);
+        two.undo();
+        two.undo();
+        T.told("nothing flows, nothing lands", two, two.months(2), 99999, 0, 0);
+    }
+
     private static void partsOfMonth() {
         ShellsByLoad x = Checks.coast("9;9", "o999", "1");
         x.flow(0);
@@ -62,7 +87,9 @@ public final class MonthsTest {
         T.same("OLD of 0", x.market(0, 1), 99900);
         x.months(1);
         T.same("99999 at most", x.market(0, 1), 99999);
-        T.same("all of the load landed", x.row(0), 9990);
+        T.same("as much landed as OLD became more", x.row(0), 99);
+        x.months(2);
+        T.same("nothing landed where there is no room", x.row(0), 0);
         x.flow(9);
         Checks.ships(x, ".");
         x.months(1);

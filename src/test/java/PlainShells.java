@@ -200,8 +200,9 @@ public final class PlainShells {
         if (!s.closed && !s.shells.isEmpty()) {
             int[] load = ships.get(s.month % ships.size());
             if (load[0] >= 0) {
-                landed = load[1];
-                s.shells.get(0)[load[0]] = Math.min(99999, s.shells.get(0)[load[0]] + landed);
+                int were = s.shells.get(0)[load[0]];
+                landed = were + load[1] > 99999 ? 99999 - were : load[1];
+                s.shells.get(0)[load[0]] = were + landed;
             }
         }
         State was = s.copy();
