@@ -334,23 +334,6 @@ public final class PricesTest {
         T.told("all fall", six, six.caravan(10), 10, 0, 0, 0, 0, 0, 0);
         Checks.rule(six, "2+(d=5)");
         T.told("as late as can be", six, six.caravan(11), 16, 0, 0, 0, 0, 2, 1);
-        fromEachToEach();
-    }
-
-    /** Buying is cheapest at one MARKET, selling dearest at a later one. */
-    private static void fromEachToEach() {
-        for (int size = 2; size <= 6; size++) {
-            ShellsByLoad x = Checks.coast("1" + ";1".repeat(size - 1), ".");
-            for (int from = 0; from < size; from++) {
-                for (int to = from + 1; to < size; to++) {
-                    Checks.rule(x, "3-(d=" + from + ")+(d=" + to + ")*4");
-                    long[] due = new long[size];
-                    due[from] = 2;
-                    due[to] = 1;
-                    T.told(from + " to " + to + " of " + size, x, x.caravan(101), 351, due);
-                }
-            }
-        }
     }
 
     private static void questionsChangeNothing() {
