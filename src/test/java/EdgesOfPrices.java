@@ -540,6 +540,8 @@ final class EdgesOfPrices {
             Checks.rule(x, "7-m");
             t.told("by 0", x, x.when(1, 9), 7, 9999);
             t.told("of none", x, x.when(0, 9), 7, 9999);
+            ShellsByLoad fresh = Checks.coast("1;1");
+            t.told("of none, by 0, ahead of any deed", fresh, fresh.when(1, 60), 0, 9999);
             x.brings(1, 0, 9000);
             x.lays(1, 0, 9000);
             t.told("18055 by 1 is more", x, x.when(1, 9), 6, 18055);
